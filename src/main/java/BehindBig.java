@@ -271,7 +271,7 @@ public final class BehindBig {
         if (!isPair(pq) || what < 0 || what > 1) {
             return BAD;
         }
-        if (!ways.measureWait(pq / 10, pq % 10, WITHIN)) {
+        if (!ways.learnWait(pq / 10, pq % 10)) {
             return NOT;
         }
         return what == 0 ? ways.longestWait : ways.longestFrom;
@@ -282,11 +282,10 @@ public final class BehindBig {
         if (!isPair(pq) || pr < 0 || !Sky.isWorld(pr / 10, 0, pr % 10) || what < 0 || what > 1) {
             return BAD;
         }
-        int start = ways.bestStart(pq / 10, pq % 10, pr / 10, pr % 10);
-        if (start == NOT) {
+        if (!ways.learnRelay(pq / 10, pq % 10, pr / 10, pr % 10)) {
             return NOT;
         }
-        return what == 0 ? start : ways.bestWait;
+        return what == 0 ? ways.bestStart : ways.bestWait;
     }
 
     /** Promise 23. */
@@ -333,7 +332,7 @@ public final class BehindBig {
         if (what == 0) {
             return Integer.bitCount(fit);
         }
-        return fit == 0 ? NOT : Integer.numberOfTrailingZeros(fit);
+        return fit == 0 ? NOT : lowestBit(fit);
     }
 
     /** Promise 26. */
@@ -691,6 +690,10 @@ public final class BehindBig {
         return fit;
     }
 
+    private static int lowestBit(int bits) {
+        return Integer.bitCount((bits & -bits) - 1);
+    }
+
     private int draw(int by) {
         chance = chance * 1103515245 + 12345;
         return left(chance >>> 8, by);
@@ -988,6 +991,8 @@ public final class BehindBig {
         /** By pair and by the phases of both: sights do not ask for starts, so moved starts cost nothing. */
         private final byte[] sightTable = new byte[PAIRS * TABLE];
         private final int[] phases = new int[MOST];
+        /** Grows with every change that sights may ask for: what was learnt by an older one is void. */
+        int version;
         private int everWord;
         private boolean everKnown;
 
@@ -1022,15 +1027,23 @@ public final class BehindBig {
         void forgetAll() {
             Arrays.fill(sightTable, (byte) UNKNOWN);
             everKnown = false;
+            version++;
         }
 
         void forgetWorld(int world) {
             for (int k = 0; k < PAIRS; k++) {
                 if (LESSER[k] == world || GREATER[k] == world) {
-                    Arrays.fill(sightTable, k * TABLE, (k + 1) * TABLE, (byte) UNKNOWN);
+                    forgetPair(k);
                 }
             }
             everKnown = false;
+            version++;
+        }
+
+        private void forgetPair(int pair) {
+            for (int at = pair * TABLE; at < (pair + 1) * TABLE && at < sightTable.length; at++) {
+                sightTable[at] = UNKNOWN;
+            }
         }
 
         int phase(int world, int t) {
@@ -1139,10 +1152,15 @@ public final class BehindBig {
             return true;
         }
 
+        /** How many pairs there are; their bits come first in every word. */
+        int pairs() {
+            return size < 2 ? 0 : size * (size - 1) / 2;
+        }
+
         /** Those of the worlds (bits) to which a sight of the word leads at once, and themselves. */
         int besides(int worlds, int word) {
-            int more = worlds;
-            for (int k = 0; k < PAIRS; k++) {
+            int more = worlds, pairs = pairs();
+            for (int k = 0; k < pairs; k++) {
                 if ((word >>> k & 1) != 0) {
                     int both = 1 << LESSER[k] | 1 << GREATER[k];
                     if ((worlds & both) != 0) {
@@ -1156,7 +1174,11 @@ public final class BehindBig {
         int reached(int world, int word) {
             int bits = 1 << world;
             for (int i = 0; i < MOST; i++) {
-                bits = besides(bits, word);
+                int more = besides(bits, word);
+                if (more == bits) {
+                    break;
+                }
+                bits = more;
             }
             return bits;
         }
@@ -1165,7 +1187,8 @@ public final class BehindBig {
         boolean everLed(int p, int q) {
             if (!everKnown) {
                 everWord = 0;
-                for (int k = 0; k < PAIRS && GREATER[k] < size; k++) {
+                int pairs = pairs();
+                for (int k = 0; k < pairs; k++) {
                     if (everMeet(LESSER[k], GREATER[k])) {
                         everWord |= 1 << k;
                     }
@@ -1210,8 +1233,11 @@ public final class BehindBig {
     private static final class Ways {
         private static final int NEVER = 1000000000;
 
-        int longestWait, longestFrom, bestWait;
+        int longestWait, longestFrom, bestStart, bestWait;
         private final Sky sky;
+        /** Waits and relays are dear and asked for part by part: the latest ones are kept with their version. */
+        private boolean waitEnds;
+        private int waitOf = -1, waitVersion, relayOf = -1, relayVersion;
         /** Sights of the steps of the latest fewestSteps(). */
         private final int[] words = new int[WITHIN];
         /** By step and world: how many hands are still needed to be there as soon as can be. */
@@ -1256,14 +1282,14 @@ public final class BehindBig {
         }
 
         private void countNeeded(int q, int steps) {
-            int last = steps * WORLDS;
+            int last = steps * WORLDS, pairs = sky.pairs();
             for (int w = 0; w < sky.size; w++) {
                 needed[last + w] = w == q ? 0 : NEVER;
             }
             for (int i = steps - 1; i >= 0; i--) {
                 int here = i * WORLDS, on = here + WORLDS;
                 System.arraycopy(needed, on, needed, here, sky.size);
-                for (int k = 0; k < Sky.PAIRS; k++) {
+                for (int k = 0; k < pairs; k++) {
                     if ((words[i] >>> k & 1) != 0) {
                         int a = Sky.LESSER[k], b = Sky.GREATER[k];
                         needed[here + a] = Math.min(needed[here + a], needed[on + b] + 1);
@@ -1303,7 +1329,8 @@ public final class BehindBig {
         /** Each world takes the least of its own number and, a hand more, of those it sees. */
         private void renew(int word, int hand) {
             System.arraycopy(ofWorlds, 0, renewed, 0, Sky.MOST);
-            for (int k = 0; k < Sky.PAIRS; k++) {
+            int pairs = sky.pairs();
+            for (int k = 0; k < pairs; k++) {
                 if ((word >>> k & 1) != 0) {
                     int a = Sky.LESSER[k], b = Sky.GREATER[k];
                     renewed[a] = Math.min(renewed[a], ofWorlds[b] + hand);
@@ -1315,11 +1342,21 @@ public final class BehindBig {
             renewed = old;
         }
 
+        boolean learnWait(int p, int q) {
+            int of = p * 10 + q;
+            if (waitOf != of || waitVersion != sky.version) {
+                waitEnds = measureWait(p, q, WITHIN);
+                waitOf = of;
+                waitVersion = sky.version;
+            }
+            return waitEnds;
+        }
+
         /**
          * The longest wait and the first step that has it; false if some wait is above the limit. All steps are
          * met in one walk from the last one down, with the step at which what a world has comes to q.
          */
-        boolean measureWait(int p, int q, int limit) {
+        private boolean measureWait(int p, int q, int limit) {
             int round = sky.round();
             int last = round + WITHIN - 1;
             Arrays.fill(ofWorlds, NEVER);
@@ -1344,21 +1381,32 @@ public final class BehindBig {
             return true;
         }
 
-        int bestStart(int p, int q, int period, int ring) {
+        boolean learnRelay(int p, int q, int period, int ring) {
+            int of = ((p * 10 + q) * 100 + period) * 10 + ring;
+            if (relayOf != of || relayVersion != sky.version) {
+                tryStarts(p, q, period, ring);
+                relayOf = of;
+                relayVersion = sky.version;
+            }
+            return bestStart != NOT;
+        }
+
+        private void tryStarts(int p, int q, int period, int ring) {
+            bestStart = NOT;
             int relay = sky.add(period, 0, ring);
-            int best = NOT, limit = WITHIN;
-            for (int s = 0; s < period && relay >= 0; s++) {
+            if (relay < 0) {
+                return;
+            }
+            int limit = WITHIN;
+            for (int s = 0; s < period; s++) {
                 sky.starts[relay] = s;
                 if (measureWait(p, q, limit)) {
-                    best = s;
+                    bestStart = s;
                     bestWait = longestWait;
                     limit = bestWait - 1;
                 }
             }
-            if (relay >= 0) {
-                sky.dropLast();
-            }
-            return best;
+            sky.dropLast();
         }
     }
 
