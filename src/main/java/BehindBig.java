@@ -662,18 +662,15 @@ public final class BehindBig {
 
     private int firstWrong(Shelf book) {
         for (int at = 0; at < book.length; at += 3) {
-            if (at > book.length - 3 || !isSo((int) book.items[at], (int) book.items[at + 1], (int) book.items[at + 2])) {
+            if (at > book.length - 3) {
+                return at / 3;
+            }
+            int t = (int) book.items[at], pq = (int) book.items[at + 1], saw = (int) book.items[at + 2];
+            if (!isStep(t) || !isPair(pq) || saw < 0 || saw > 1 || sky.meet(pq / 10, pq % 10, t) != (saw == 1)) {
                 return at / 3;
             }
         }
         return NOT;
-    }
-
-    private boolean isSo(int t, int pq, int saw) {
-        if (!isStep(t) || !isPair(pq) || saw < 0 || saw > 1) {
-            return false;
-        }
-        return sky.meet(pq / 10, pq % 10, t) == (saw == 1);
     }
 
     /** The starts of a world (bits) by which the book is so; its own start is laid back. */
@@ -776,7 +773,11 @@ public final class BehindBig {
             at = 0;
             fault = -1;
             newSize = 0;
-            readLines();
+            readLine();
+            for (int line = 1; line < TAPE && fault < 0 && letter() == ';'; line++) {
+                at++;
+                readLine();
+            }
             if (fault < 0 && at < length) {
                 fault = at;
             }
@@ -794,18 +795,6 @@ public final class BehindBig {
             size = newSize;
             newCodes = oldCodes;
             newValues = oldValues;
-        }
-
-        private void readLines() {
-            for (int line = 0; line < TAPE && fault < 0; line++) {
-                if (line > 0) {
-                    if (letter() != ';') {
-                        return;
-                    }
-                    at++;
-                }
-                readLine();
-            }
         }
 
         private void readLine() {
@@ -922,42 +911,43 @@ public final class BehindBig {
             for (int i = 0; i < size; i++) {
                 int code = codes[i], value = values[i];
                 if (code == NUMBER || code == NAME) {
-                    if (top >= CODES) {
+                    if (top >= CODES || code == NAME && value >= names.length) {
                         return 0;
                     }
-                    stack[top] = code == NUMBER ? value : nameAt(value);
+                    stack[top] = code == NUMBER ? value : names[value];
                     top++;
                     continue;
                 }
                 if (top < 1) {
                     return 0;
                 }
-                int last = stack[top - 1];
+                top--;
+                int last = stack[top];
                 if (code == COUNTS) {
                     return last;
                 }
                 if (code == WHETHER) {
-                    top--;
                     // A line that does not count is passed over: codes only ever lead on.
                     i = last == 0 ? Math.max(i, value - 1) : i;
-                } else if (code == NEITHER || code == MINUS) {
-                    stack[top - 1] = code == MINUS ? -last : last == 0 ? 1 : 0;
-                } else if (top < 2) {
-                    return 0;
-                } else {
-                    top--;
-                    stack[top - 1] = workOut(code, stack[top - 1], last);
+                    continue;
                 }
+                boolean alone = code == NEITHER || code == MINUS;
+                if (!alone && top < 1) {
+                    return 0;
+                }
+                if (!alone) {
+                    top--;
+                }
+                stack[top] = workOut(code, stack[top], last);
+                top++;
             }
             return 0;
         }
 
-        private int nameAt(int i) {
-            return i >= 0 && i < names.length ? names[i] : 0;
-        }
-
         private static int workOut(int sign, int x, int y) {
             switch (sign) {
+                case NEITHER: return y == 0 ? 1 : 0;
+                case MINUS: return -y;
                 case '|': return x != 0 || y != 0 ? 1 : 0;
                 case '&': return x != 0 && y != 0 ? 1 : 0;
                 case '<': return x < y ? 1 : 0;
@@ -967,7 +957,8 @@ public final class BehindBig {
                 case '-': return x - y;
                 case '*': return x * y;
                 case '/': return y == 0 ? 0 : x / y;
-                default: return y == 0 ? 0 : x % y;
+                case '%': return y == 0 ? 0 : x % y;
+                default: return 0;
             }
         }
     }
@@ -1081,12 +1072,12 @@ public final class BehindBig {
                 return false;
             }
             if (sightTable[at] == UNKNOWN) {
-                sightTable[at] = (byte) (workOut(pair, phaseOfLesser, phaseOfGreater) ? SEEN : HIDDEN);
+                sightTable[at] = (byte) (lawful(pair, phaseOfLesser, phaseOfGreater) ? SEEN : HIDDEN);
             }
             return sightTable[at] == SEEN;
         }
 
-        private boolean workOut(int pair, int phaseOfLesser, int phaseOfGreater) {
+        private boolean lawful(int pair, int phaseOfLesser, int phaseOfGreater) {
             int lesser = LESSER[pair], greater = GREATER[pair];
             int a = placeIn(lesser, phaseOfLesser), b = placeIn(greater, phaseOfGreater);
             int far = Math.abs(a - b);
@@ -1189,23 +1180,16 @@ public final class BehindBig {
                 everWord = 0;
                 int pairs = pairs();
                 for (int k = 0; k < pairs; k++) {
-                    if (everMeet(LESSER[k], GREATER[k])) {
-                        everWord |= 1 << k;
+                    int round = roundOfTwo(LESSER[k], GREATER[k]);
+                    for (int t = 0; t < round && (everWord >>> k & 1) == 0; t++) {
+                        if (look(k, phase(LESSER[k], t), phase(GREATER[k], t))) {
+                            everWord |= 1 << k;
+                        }
                     }
                 }
                 everKnown = true;
             }
             return (reached(p, everWord) & 1 << q) != 0;
-        }
-
-        private boolean everMeet(int p, int q) {
-            int round = roundOfTwo(p, q);
-            for (int t = 0; t < round; t++) {
-                if (meet(p, q, t)) {
-                    return true;
-                }
-            }
-            return false;
         }
 
         int between(int p, int q, int t) {
@@ -1383,19 +1367,13 @@ public final class BehindBig {
 
         boolean learnRelay(int p, int q, int period, int ring) {
             int of = ((p * 10 + q) * 100 + period) * 10 + ring;
-            if (relayOf != of || relayVersion != sky.version) {
-                tryStarts(p, q, period, ring);
-                relayOf = of;
-                relayVersion = sky.version;
+            if (relayOf == of && relayVersion == sky.version) {
+                return bestStart != NOT;
             }
-            return bestStart != NOT;
-        }
-
-        private void tryStarts(int p, int q, int period, int ring) {
             bestStart = NOT;
             int relay = sky.add(period, 0, ring);
             if (relay < 0) {
-                return;
+                return false;
             }
             int limit = WITHIN;
             for (int s = 0; s < period; s++) {
@@ -1403,10 +1381,14 @@ public final class BehindBig {
                 if (measureWait(p, q, limit)) {
                     bestStart = s;
                     bestWait = longestWait;
+                    // Only what is less than the best can still take its place.
                     limit = bestWait - 1;
                 }
             }
             sky.dropLast();
+            relayOf = of;
+            relayVersion = sky.version;
+            return bestStart != NOT;
         }
     }
 
