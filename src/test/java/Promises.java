@@ -104,6 +104,11 @@ public final class Promises {
         due("worlds when they are full", x.worlds(2, 0, 1), 0);
         due("count(0)", x.count(0), 6);
         due("of(5, 2)", x.of(5, 2), 2);
+        BehindBig some = new BehindBig();
+        row(some, 0, 0, 1, 0, 1, 1, 0, 2, 1, 0, 3);
+        due("worlds, fewer than the row has", some.worlds(0, 0, 2), 2);
+        due("worlds, the last three", some.worlds(0, 6, 1), 1);
+        due("of(2, 2)", some.of(2, 2), 3);
         row(x, 3, 0);
         due("worlds of an empty row", x.worlds(3, 0, 1), 0);
         row(new BehindBig(), 3, 0);
@@ -138,11 +143,12 @@ public final class Promises {
         due("what is left counts", x.place(1, 0), 180);
         due("mend(1, 1, 2)", x.mend(1, 1, 2), BAD);
         due("mend(1, 1, 0)", x.mend(1, 1, 0), 3);
-        due("mend(1, 2, 9)", x.mend(1, 2, 9), 5);
+        due("mend(1, 2, 1)", x.mend(1, 2, 1), 5);
+        due("mend(1, 2, 9)", x.mend(1, 2, 9), 1);
         due("mend(0, 3, 0)", x.mend(0, 3, 0), 30);
         due("mend(0, 4, 11)", x.mend(0, 4, 11), 0);
         due("mend(0, 4, 11) again", x.mend(0, 4, 11), 11);
-        due("count(4)", x.count(4), 5);
+        due("count(4)", x.count(4), 6);
         promise = 5;
         due("of(0, 3)", x.of(0, 3), 0);
         x.go(0, 5);
@@ -161,6 +167,9 @@ public final class Promises {
         BehindBig x = new BehindBig();
         due("feed(-1)", x.feed(-1), BAD);
         due("feed(256)", x.feed(256), BAD);
+        BehindBig bytes = new BehindBig();
+        due("feed(0)", bytes.feed(0), 1);
+        due("feed(255)", bytes.feed(255), 2);
         for (int i = 1; i <= 120; i++) due("feed", x.feed(i == 1 ? '(' : 'd'), i);
         due("feed, one more", x.feed('d'), FULL);
         due("feed, one more, wrong", x.feed(300), BAD);
@@ -395,6 +404,11 @@ public final class Promises {
         due("waits(1, 2)", x.waits(1, 2), BAD);
         due("waits(1, -1)", x.waits(1, -1), BAD);
         due("waits(33, 0)", x.waits(33, 0), BAD);
+        // In a round of 12 the two see each other at 0 and 6 alone: the same wait from 1 and from 7.
+        BehindBig twice = with(600, 1, 400, 2);
+        law(twice, "a=0&b/90%2=0");
+        due("waits, like ones", twice.waits(1, 0), 6);
+        due("waits, of like ones the first", twice.waits(1, 1), 1);
         x.mend(0, 1, 1);
         due("waits(1, 1) behind a start mended", x.waits(1, 1), 0);
         x.undo();
@@ -688,6 +702,17 @@ public final class Promises {
         for (int i = 39; i >= 0; i--) due("redo", x.redo(), i);
         due("redo, no more", x.redo(), STATE);
         due("of(0, 20)", x.of(0, 20), 159);
+        BehindBig y = with(100, 1, 100, 1);
+        for (int i = 0; i < 45; i++) y.mend(i % 2, i % 4 == 0 ? 0 : 2, 1 + (i + 5) % 9);
+        int[] then = {y.of(0, 0), y.of(0, 2), y.of(1, 0), y.of(1, 2)};
+        int kept = y.count(4);
+        for (int i = 0; i < kept; i++) y.undo();
+        due("undo beyond what is kept", y.undo(), STATE);
+        for (int i = 0; i < kept; i++) y.redo();
+        due("all done again", y.of(0, 0), then[0]);
+        due("all done again", y.of(0, 2), then[1]);
+        due("all done again", y.of(1, 0), then[2]);
+        due("all done again", y.of(1, 2), then[3]);
     }
 
     static void acts() {
