@@ -47,7 +47,7 @@ public final class BehindBig {
 
     /** Promise 3. */
     public int worlds(int shelf, int i, int n) {
-        if (!isShelf(shelf) || i < 0 || n < 1 || n > WORLDS) {
+        if (!isShelf(shelf) || n < 1 || n > WORLDS) {
             return BAD;
         }
         Shelf from = shelves[shelf];
@@ -58,7 +58,8 @@ public final class BehindBig {
             return OTHER_KIND;
         }
         int came = 0;
-        for (int at = i; came < n && at <= from.length - 3 && sky.size < WORLDS; at += 3) {
+        // The document bounds no place: one that the row lacks, below 0 too, is where the row ends.
+        for (int at = i; came < n && from.hasPlaces(at, 3) && sky.size < WORLDS; at += 3) {
             int period = (int) from.items[at], start = (int) from.items[at + 1], ring = (int) from.items[at + 2];
             if (!Sky.isWorld(period, start, ring)) {
                 break;

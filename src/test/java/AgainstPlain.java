@@ -283,7 +283,7 @@ public final class AgainstPlain {
                 }
             }
             int i = upTo(3) == 0 ? upTo(8) : 0, n = what(7);
-            if (upTo(30) == 0) i = -1;
+            if (upTo(12) == 0) i = upTo(4) == 0 ? Integer.MIN_VALUE + upTo(3) : -1 - upTo(6);
             say("worlds(" + shelf + ", " + i + ", " + n + ")", x.worlds(shelf, i, n), y.worlds(shelf, i, n));
         }
     }
@@ -489,13 +489,13 @@ public final class AgainstPlain {
         void add(int p, int s, int ring) { World w = new World(); w.period = p; w.start = s; w.ring = ring; worlds.add(w); }
 
         int worlds(int shelf, int i, int n) {
-            if (shelf < 0 || shelf > 5 || n < 1 || n > 6 || i < 0) return BAD;
+            if (shelf < 0 || shelf > 5 || n < 1 || n > 6) return BAD;
             if (shelves[shelf] == null) return 0;
             if (!(shelves[shelf] instanceof byte[])) return -12;
             byte[] row = (byte[]) shelves[shelf];
             int came = 0;
             while (came < n) {
-                if (i + 2 >= row.length) break;
+                if (i < 0 || i >= row.length - 2) break;
                 int p = row[i], s = row[i + 1], r = row[i + 2];
                 if (p < 1 || p > 12 || s < 0 || s >= p || r < 1 || r > 9 || n() == 6) break;
                 add(p, s, r);

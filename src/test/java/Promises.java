@@ -84,12 +84,23 @@ public final class Promises {
         due("worlds(0, 0, 0)", x.worlds(0, 0, 0), BAD);
         due("worlds(0, 0, 7)", x.worlds(0, 0, 7), BAD);
         due("worlds of a shelf with nothing", x.worlds(0, 0, 1), 0);
+        int[] below = {-1, -2, -3, -6, Integer.MIN_VALUE, Integer.MIN_VALUE + 1};
+        for (int i : below) {
+            due("worlds of a shelf with nothing, from " + i, x.worlds(0, i, 1), 0);
+            due("worlds of no shelf, from " + i, x.worlds(6, i, 1), BAD);
+            due("no worlds, from " + i, x.worlds(0, i, 0), BAD);
+            due("seven worlds, from " + i, x.worlds(0, i, 7), BAD);
+        }
         row(x, 0, 1, 5, 2, 3);
         due("worlds of shorts", x.worlds(0, 0, 1), -12);
+        for (int i : below) due("worlds of shorts, from " + i, x.worlds(0, i, 1), -12);
         x.body(0);
         x.keep(1, 0);
         due("worlds of a relay", x.worlds(1, 0, 1), -12);
+        for (int i : below) due("worlds of a relay, from " + i, x.worlds(1, i, 1), -12);
         row(x, 2, 0, 5, 2, 3, 6, 1, 9, 12, 11);
+        for (int i : below) due("worlds of bytes, from " + i, x.worlds(2, i, 6), 0);
+        due("none came from below", x.count(0), 0);
         due("worlds to the row's end", x.worlds(2, 0, 6), 2);
         due("of(1, 0)", x.of(1, 0), 6);
         due("of(1, 2)", x.of(1, 2), 9);
