@@ -60,6 +60,11 @@ final class OfBooks {
             t.run(SKY + "; shorts 0: 0 1 " + saw + "; judge(0) -> 0");
         }
         t.each(SKY, "shorts 0: 1; judge(0) -> 0", "shorts 0: 1 1; judge(0) -> 0", "shorts 0: 1 1 1 0; judge(0) -> 1", "shorts 0: 1 1 1 0 1; judge(0) -> 1", "shorts 0: 1 1 0 0 1; judge(0) -> 0");
+        t.each(SKY, "shorts 0: 1 1 1 1 1 1 0; judge(0) -> 2", "shorts 0: 1 1 1 1 1 1 0 1; judge(0) -> 2", "shorts 0: 1 1 1 1 1 1 1 1 1 0; judge(0) -> 3");
+        t.run(SKY + "; row(0, 1, 59); judge(0) -> 0; row(0, 1, 58); judge(0) -> 0");
+        StringBuilder lacks = new StringBuilder("shorts 0:");
+        for (int k = 0; k < 19; k++) lacks.append(" 1 1 1");
+        t.each(SKY, lacks + "; judge(0) -> NOT", lacks + " 1; judge(0) -> 19", lacks + " 1 1; judge(0) -> 19", lacks + " 1 1 1; judge(0) -> NOT");
         t.run("shorts 0: 0 1 0; judge(0) -> 0");
         t.run("sky 100/1; shorts 0: 0 1 0; judge(0) -> 0; world(100, 2); judge(0) -> 0; law \"0\"; judge(0) -> NOT");
         t.run("sky 100/1*6; shorts 0: 0 45 1 0 54 1 0 5 1 0 50 1; judge(0) -> NOT; shorts 1: 0 56 0; judge(1) -> 0");
@@ -93,6 +98,7 @@ final class OfBooks {
         t.run("sky 1200/1 1200/2; law \"d=30\"; shorts 0: 0 1 1; whose(0) -> 3; of(0, 1) -> 0; of(1, 1) -> 0");
         t.says(26, "WHOSE: all worlds (bits) that have such a START unlike theirs.");
         t.run("shorts 0:; whose(0) -> 0");
+        t.run("sky 1200/1 100/2; relay(1, 125, 0); shorts 0:; whose(0) -> 1");
         t.run("sky 100/1; shorts 0:; whose(0) -> 0");
         t.run("sky 200/1 100/1 300/1 100/1 1200/1 1211/1; shorts 0:; whose(0) -> 53");
         t.run("sky 1200/1*6; shorts 0:; whose(0) -> 63; shorts 0: 1; whose(0) -> 0");

@@ -14,6 +14,7 @@ final class OfDeeds {
         undo(t);
         redo(t);
         forty(t);
+        fortyOfAll(t);
     }
 
     private static int next(int z) {
@@ -190,6 +191,31 @@ final class OfDeeds {
         t.run("mend(0, 3, 31); undo(); mend(0, 3, 181) -> BAD; mend(1, 3, 5) -> BAD; redo() -> 0; of(0, 20) -> 31");
         t.run("mend(0, 3, 31); undo(); mend(0, 3, 31) -> 30; redo() -> STATE; count(4) -> 1");
         t.run("sky 400/1*2; mend(0, 0, 6); undo(); world(500, 1); send(1); go(1, 2); image(); back(); law \"1\"; redo() -> 0; of(0, 0) -> 6; of(0, 23) -> 60");
+    }
+
+    /** 45 changes of all sorts: 40 of them undone and done again, each looked at. */
+    private static void fortyOfAll(Told t) {
+        t.says(33, "40 at most are kept.");
+        int[][] sorts = {{0, 0}, {1, 2}, {0, 3}, {2, 1}, {0, 4}, {2, 2}, {1, 0}, {0, 1}, {1, 1}};
+        int[] values = {12, 1, 30, 0, 0, 1, 12, 0, 0};
+        int[] olds = new int[45], news = new int[45];
+        StringBuilder text = new StringBuilder("sky 1200/1 1200/1 1200/1");
+        for (int i = 0; i < 45; i++) {
+            int sort = i % 9, to = i / 9 + (sorts[sort][1] == 0 ? 6 : sorts[sort][1] == 3 ? 90 : sorts[sort][1] == 2 ? 3 : 1);
+            olds[i] = values[sort];
+            news[i] = to;
+            values[sort] = to;
+            text.append("; mend(").append(sorts[sort][0]).append(", ").append(sorts[sort][1]).append(", ").append(to).append(") -> ").append(olds[i]);
+        }
+        text.append("; count(4) -> 40");
+        for (int i = 44; i >= 5; i--) text.append("; undo() -> ").append(i - 5).append(look(sorts[i % 9], olds[i]));
+        text.append("; undo() -> STATE; count(4) -> 0");
+        for (int i = 5; i < 45; i++) text.append("; redo() -> ").append(44 - i).append(look(sorts[i % 9], news[i]));
+        t.run(text + "; redo() -> STATE; count(4) -> 40");
+    }
+
+    private static String look(int[] sort, int want) {
+        return "; of(" + sort[0] + ", " + (sort[1] > 2 ? 17 + sort[1] : sort[1]) + ") -> " + want;
     }
 
     private static void forty(Told t) {

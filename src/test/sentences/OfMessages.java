@@ -82,6 +82,9 @@ final class OfMessages {
         t.says(21, "WAIT (what 0), the first such step (1). BAD; NOT.");
         t.run(TURNS + "; waits(1, 0) -> 12; waits(1, 1) -> 1; waits(2, 0) -> 8; waits(2, 1) -> 1; waits(20, 0) -> 12; waits(20, 1) -> 9; waits(12, 0) -> 12; waits(12, 1) -> 4");
         t.each(TURNS, "waits(1, -1) -> BAD", "waits(1, 2) -> BAD", "waits(1, MIN) -> BAD", "waits(1, MAX) -> BAD", "waits(11, 2) -> BAD");
+        // One after another, each two both ways: what one call worked out is no other one's answer.
+        t.run(TURNS + "; waits(1, 0) -> 12; waits(21, 0) -> 9; waits(21, 1) -> 4; waits(1, 1) -> 1; waits(2, 0) -> 8; waits(12, 0) -> 12; waits(12, 1) -> 4; waits(2, 1) -> 1; "
+            + "waits(10, 0) -> 9; waits(20, 0) -> 12; waits(20, 1) -> 9; waits(10, 1) -> 4; waits(1, 0) -> 12; waits(10, 0) -> 9; waits(12, 0) -> 12; waits(21, 0) -> 9; waits(2, 0) -> 8; waits(20, 0) -> 12");
         t.says(21, "WAIT of two: the greatest SOONEST of all steps of a ROUND; the first such step;");
         t.run("sky 100/1 100/1; waits(1, 0) -> 1; waits(1, 1) -> 0");
         t.run("sky 1200/1 100/2; law \"a=0\"; waits(1, 0) -> 12; waits(1, 1) -> 1");
@@ -121,6 +124,7 @@ final class OfMessages {
         t.run(six + "; waits(1, 0) -> NOT; relay(1, 45, 0) -> 0; relay(1, 45, 1) -> 6; waits(1, 0) -> NOT; all() -> 0; joined(0, 0) -> 1");
         t.says(22, "NOT: by none.");
         t.each(parted, "relay(1, 46, 0) -> NOT", "relay(1, 46, 1) -> NOT", "relay(1, 35, 0) -> NOT", "relay(1, 35, 1) -> NOT", "relay(1, 15, 0) -> NOT");
+        t.run(parted + "; relay(1, 46, 0) -> NOT; relay(1, 46, 0) -> NOT; relay(1, 46, 1) -> NOT; relay(1, 45, 1) -> 6; relay(1, 46, 1) -> NOT; relay(1, 46, 0) -> NOT");
         t.run("sky 100/1 100/2; law \"0\"; relay(1, 11, 0) -> NOT; relay(1, 129, 1) -> NOT; relay(1, 11, 2) -> BAD");
         t.each(CHAIN, "relay(5, 11, 0) -> NOT", "relay(4, 11, 0) -> 0", "relay(4, 11, 1) -> 528");
     }
@@ -137,6 +141,8 @@ final class OfMessages {
         // PERIOD 8: at 0 or at 180 for 1; STARTS 3 and 7 are alike.
         t.run("sky 400/1 400/2; law \"q=2?0;q=5?r=1&a=0|r=2&b%180=0\"; relay(1, 85, 0) -> 3; relay(1, 85, 1) -> 5");
         t.run("sky 400/1 400/2; law \"q=2?0;q=5?r=1&a=0|r=2\"; relay(1, 125, 0) -> 0; relay(1, 125, 1) -> 5");
+        t.run(late + "; relay(1, 45, 0) -> 3; relay(10, 45, 0) -> 1; relay(1, 45, 0) -> 3; relay(1, 46, 0) -> NOT; relay(1, 45, 1) -> 5; relay(1, 25, 0) -> 1; relay(1, 15, 1) -> 5; relay(1, 45, 1) -> 5");
+        t.run(late + "; relay(1, 15, 0) -> 0; relay(1, 25, 0) -> 1; relay(1, 25, 1) -> 5; relay(1, 19, 0) -> NOT; waits(1, 0) -> NOT; relay(1, 15, 1) -> 5; waits(1, 0) -> NOT");
         t.run(late + "; relay(1, 45, 0) -> 3; mend(0, 1, 1); relay(1, 45, 0) -> 0; undo(); relay(1, 45, 0) -> 3; law \"0\"; relay(1, 45, 0) -> NOT");
     }
 
@@ -161,6 +167,7 @@ final class OfMessages {
         t.run("sky 100/1 100/1; mend(0, 4, 4); safe(1, 0, 20) -> 8; safe(1, 0, 21) -> 9");
         t.run(LINE + "; safe(5, 0, 20) -> 1; safe(5, 0, 21) -> 1; mend(0, 4, 11); safe(5, 0, 10) -> 1; safe(5, 0, 11) -> 248832; safe(5, 0, 20) -> 497663; safe(5, 0, 21) -> 61917364224");
         t.run(LINE + "; mend(0, 4, 1); safe(5, 0, 10) -> 161051; safe(5, 0, 11) -> 248832; safe(5, 0, 20) -> " + (2L * 161051 * 248832 - 161051L * 161051) + "; safe(5, 0, 21) -> 61917364224");
+        t.run("sky 100/1 100/2 100/3 100/4 100/5 100/6; law \"q-r=1\"; mend(0, 4, 6); safe(24, 0, 11) -> 4; safe(42, 0, 11) -> 4; safe(25, 0, 11) -> 8; safe(52, 0, 11) -> 8; safe(54, 0, 11) -> 2; safe(10, 0, 11) -> 2; safe(51, 0, 11) -> 16; safe(15, 0, 11) -> 16; safe(50, 0, 11) -> 32");
         // By the WAY with fewest hands: one, though two are as soon; and by two where they are sooner than one.
         t.run("sky 400/1 400/2 400/4; law \"a=180&r=1&q=4|a=0&r=1&q=2|a=180&r=2\"; mend(0, 4, 6); safe(2, 0, 11) -> 2; safe(2, 0, 10) -> 1");
         t.run(TURNS + "; mend(0, 4, 6); safe(2, 0, 11) -> 4; safe(2, 1, 11) -> 2; hands(2, 0) -> 1");

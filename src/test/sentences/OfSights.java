@@ -7,6 +7,7 @@ final class OfSights {
 
     static void tell(Told t) {
         pairs(t);
+        eachPair(t);
         steps(t);
         sees(t);
         sights(t);
@@ -48,6 +49,42 @@ final class OfSights {
         t.run("sky 100/1*6; sees(45, 0) -> 1; sees(54, 0) -> 1; sees(5, 0) -> 1; sees(50, 0) -> 1; sees(1, 0) -> 1");
         t.says(27, "(pq: 10 times the one and the other, unlike)");
         t.run("sky 100/1*6; send(5) -> 0; of(0, 10) -> 0; of(0, 11) -> 5; send(50) -> 1; of(1, 10) -> 5; of(1, 11) -> 0");
+    }
+
+    /** Of six worlds two see each other, and no others: each two, told both ways. */
+    private static void eachPair(Told t) {
+        String sky = "sky 100/1 100/2 100/3 100/4 100/5 100/6; mend(0, 4, 6); ";
+        String[] told = {"sees(#, 4) -> 1", "sights(#, 0) -> 1", "blind(#) -> 0", "next(#, 4) -> 4", "lasts(#, 4) -> NOT", "beam(#, 4) -> 0", "soonest(#, 4) -> 1", "way(#, 4, 1) -> @", "hands(#, 4) -> 1", "waits(#, 0) -> 1", "safe(#, 4, 11) -> 2"};
+        String[] else0 = {"sees(#, 4) -> 0", "sights(#, 0) -> 0", "blind(#) -> NOT", "next(#, 4) -> NOT", "lasts(#, 4) -> 0", "beam(#, 4) -> NOT", "soonest(#, 4) -> NOT", "way(#, 4, 0) -> NOT", "hands(#, 4) -> NOT", "waits(#, 0) -> NOT", "safe(#, 4, 11) -> NONE"};
+        int[] promises = {9, 10, 11, 12, 15, 17, 18, 19, 20, 21, 23};
+        for (int i = 0; i < promises.length; i++) {
+            t.says(promises[i], "(pq: 10 times the one and the other, unlike)");
+            for (int p = 0; p < 6; p++) {
+                for (int q = p + 1; q < 6; q++) {
+                    String law = sky + "law \"r=" + (p + 1) + "&q=" + (q + 1) + "\"";
+                    t.run(law + "; " + told[i].replace("#", "" + p + q).replace("@", "" + q) + "; " + told[i].replace("#", "" + q + p).replace("@", "" + p));
+                    int other = (q + 1) % 6 == p ? (q + 2) % 6 : (q + 1) % 6;
+                    t.each(law, else0[i].replace("#", "" + p + other), else0[i].replace("#", "" + other + p), else0[i].replace("#", "" + q + other), else0[i].replace("#", "" + other + q));
+                }
+            }
+        }
+        for (int p = 0; p < 6; p++) {
+            for (int q = p + 1; q < 6; q++) {
+                String law = sky + "law \"r=" + (p + 1) + "&q=" + (q + 1) + "\"";
+                int third = p == 0 ? q == 1 ? 2 : 1 : 0;
+                t.says(16, "UNHEARD by a third (all unlike). BAD; NOT.");
+                t.run(law + "; unheard(" + p + q + ", " + third + ", 4) -> 4; unheard(" + q + p + ", " + third + ", 4) -> 4; unheard(" + p + third + ", " + q + ", 4) -> NOT; unheard(" + third + q + ", " + p + ", 4) -> NOT");
+                t.says(14, "JOINED, as bits. BAD.");
+                t.run(law + "; joined(" + p + ", 4) -> " + (1 << p | 1 << q) + "; joined(" + q + ", 4) -> " + (1 << p | 1 << q) + "; joined(" + third + ", 4) -> " + (1 << third));
+                t.says(28, "it is handed on as by the WAY from NOW");
+                t.run(law + "; mend(0, 4, 0); send(" + p + q + "); send(" + q + p + "); send(" + p + third + "); go(1, 1) -> 2; of(0, 12) -> " + q + "; of(1, 12) -> " + p + "; of(2, 12) -> " + p + "; of(" + p + ", 4) -> 1; of(" + q + ", 4) -> 1");
+                t.says(22, "RELAY: one more world (number 6) of a told PERIOD and RING:");
+                String relayed = sky + "law \"q=9?r=" + (p + 1) + "|r=" + (q + 1) + ";0\"";
+                t.run(relayed + "; relay(" + p + q + ", 19, 1) -> 2; relay(" + third + q + ", 19, 0) -> NOT; relay(" + p + q + ", 19, 0) -> 0; relay(" + p + third + ", 19, 1) -> NOT; relay(" + q + p + ", 19, 1) -> 2; relay(" + third + p + ", 19, 0) -> NOT");
+                t.says(24, "10 times the one world and the other one,");
+                t.run(law + "; shorts 0: 4 " + p + q + " 1 4 " + q + p + " 1 4 " + p + third + " 0 4 " + third + q + " 0; judge(0) -> NOT; put(0, 2, 0); judge(0) -> 0");
+            }
+        }
     }
 
     private static void steps(Told t) {
@@ -211,6 +248,7 @@ final class OfSights {
         t.run(sky + "; mend(2, 1, 0); beam(2, 0) -> 0; beam(20, 0) -> 0; beam(1, 0) -> 0; beam(21, 0) -> 0; beam(31, 0) -> 5");
         t.run(sky + "; mend(2, 1, 2); beam(1, 0) -> 0; beam(2, 0) -> 0; beam(10, 0) -> 0");
         t.run("sky 100/1*6; beam(1, 0) -> 0; beam(45, 7) -> 0");
+        t.run("sky 100/1 100/1 1203/1 100/1 1202/1 1204/1; beam(45, 0) -> 4; beam(54, 0) -> 4; beam(34, 0) -> 0; beam(35, 0) -> 20; beam(53, 0) -> 20");
         t.run("sky 100/1 100/1; beam(1, 0) -> 0");
     }
 
